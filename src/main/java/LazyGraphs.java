@@ -47,26 +47,20 @@ public final class LazyGraphs {
     }
 
     public int define(char letter) throws IllegalArgumentException {
-        if (!isLetter(letter)) {
-            throw new IllegalArgumentException("the letter is not A .. Z");
-        }
+        int number = letterNumber(letter);
         Definition definition = new Definition(text, typed);
         typed = 0;
         int answer = new Reader(definition).read();
         if (answer >= 0) {
-            graph.definitions[letter - 'A'] = definition;
+            graph.definitions[number] = definition;
         }
         return answer;
     }
 
     public void forget(char letter) throws IllegalArgumentException, IllegalStateException {
-        if (!isLetter(letter)) {
-            throw new IllegalArgumentException("the letter is not A .. Z");
-        }
-        if (graph.definitions[letter - 'A'] == null) {
-            throw new IllegalStateException("the letter stands for nothing");
-        }
-        graph.definitions[letter - 'A'] = null;
+        int number = letterNumber(letter);
+        checkDefined(number);
+        graph.definitions[number] = null;
     }
 
     public int parameters(char letter) {
@@ -74,16 +68,12 @@ public final class LazyGraphs {
     }
 
     public int run(char letter, int entries) throws IllegalArgumentException, IllegalStateException {
-        if (!isLetter(letter)) {
-            throw new IllegalArgumentException("the letter is not A .. Z");
-        }
+        int number = letterNumber(letter);
         if (entries < 1 || entries > ENTRY_LIMIT) {
             throw new IllegalArgumentException("the entries are not 1 .. 50");
         }
-        if (graph.definitions[letter - 'A'] == null) {
-            throw new IllegalStateException("the letter stands for nothing");
-        }
-        graph.begin(letter - 'A', entries);
+        checkDefined(number);
+        graph.begin(number, entries);
         writer.write(graph);
         return graph.end == Graph.GOING_ON ? writer.written : graph.end;
     }
@@ -98,6 +88,19 @@ public final class LazyGraphs {
 
     public char charAt(int p) {
         return p >= 0 && p < writer.written ? writer.page[p] : ' ';
+    }
+
+    private static int letterNumber(char letter) {
+        if (!isLetter(letter)) {
+            throw new IllegalArgumentException("the letter is not A .. Z");
+        }
+        return letter - 'A';
+    }
+
+    private void checkDefined(int number) {
+        if (graph.definitions[number] == null) {
+            throw new IllegalStateException("the letter stands for nothing");
+        }
     }
 
     private static boolean isLetter(char c) {
@@ -115,9 +118,9 @@ public final class LazyGraphs {
     /** A text read as a definition. Its parts are known by the places where they begin. */
     private static final class Definition {
         private final char[] signs;
-        /** Where the next expression of the same whole begins, for an expression; 0, where none can, if it is the last. */
+        /** For an expression: where the next one of the same whole begins; 0, where none can, if it is the last. */
         private final int[] nextPart;
-        /** Where the variable is bound, for a variable that is an expression. */
+        /** For a variable that is an expression: where it is bound. */
         private final int[] binder;
         private int parameterCount = 0;
 
@@ -176,11 +179,6 @@ public final class LazyGraphs {
             if (previous != FIRST) {
                 definition.nextPart[previous] = place;
             }
-            readExpression(depth);
-            return place;
-        }
-
-        private void readExpression(int depth) {
             char sign = sign();
             if (isVariable(sign)) {
                 useVariable(sign);
@@ -192,6 +190,7 @@ public final class LazyGraphs {
             } else {
                 readWhole(sign, depth + 1);
             }
+            return place;
         }
 
         private void useVariable(char sign) {
@@ -376,13 +375,9 @@ public final class LazyGraphs {
             }
         }
 
-        void stop(int reason) {
-            end = reason;
-        }
-
         /** Needs a promise from outside of all expressions; answers whether the run goes on. */
         boolean need(int cell) {
-            if (end == GOING_ON && !isKept(cell)) {
+            if (end == GOING_ON && !request(cell)) {
                 for (int step = 0; step < STEP_LIMIT && waitingCount > 0 && end == GOING_ON; step++) {
                     lookAt(waiting[waitingCount - 1]);
                 }
@@ -400,10 +395,10 @@ public final class LazyGraphs {
             return nextPart(pair + 1);
         }
 
-        /** Whether the cell has its value; if not, it comes on the stack, unless it waits there already. */
-        private boolean isKept(int cell) {
+        /** Answers whether the cell has its value; if not, it comes on the stack, or is there already: a loop. */
+        private boolean request(int cell) {
             if (state[cell] == BEING_WORKED_OUT) {
-                stop(LOOP);
+                end = LOOP;
                 return false;
             }
             if (state[cell] == UNTOUCHED) {
@@ -425,7 +420,7 @@ public final class LazyGraphs {
         }
 
         private void keepAs(int cell, int other) {
-            if (isKept(other)) {
+            if (request(other)) {
                 keep(cell, state[other], value[other]);
             }
         }
@@ -444,47 +439,33 @@ public final class LazyGraphs {
                 keepAs(cell, value[cell - place + body.binder[place]]);
             } else if (isLetter(sign)) {
                 lookAtLetter(cell, sign - 'A');
+            } else if (sign == '~') {
+                keep(cell, EMPTY, 0);
+            } else if (sign == ':') {
+                keep(cell, PAIR, cell);
+            } else if (sign == '(') {
+                lookAtApplication(cell);
+            } else if (sign == '?') {
+                lookAtChoice(cell);
+            } else if (sign == '/') {
+                lookAtSplit(cell);
+            } else if (sign == '$') {
+                value[cell + 1] = cell + 2;
+                keepAs(cell, nextPart(cell + 2));
             } else {
-                lookAtWhole(cell, sign);
-            }
-        }
-
-        private void lookAtWhole(int cell, int sign) {
-            switch (sign) {
-                case '~':
-                    keep(cell, EMPTY, 0);
-                    break;
-                case ':':
-                    keep(cell, PAIR, cell);
-                    break;
-                case '(':
-                    lookAtApplication(cell);
-                    break;
-                case '?':
-                    lookAtChoice(cell);
-                    break;
-                case '/':
-                    lookAtSplit(cell);
-                    break;
-                case '$':
-                    value[cell + 1] = cell + 2;
-                    keepAs(cell, nextPart(cell + 2));
-                    break;
-                default:
-                    lookAtArithmetic(cell, sign);
-                    break;
+                lookAtArithmetic(cell, sign);
             }
         }
 
         private void lookAtLetter(int cell, int letter) {
             int count = parameterCount(letter);
             if (count == NONE) {
-                stop(BAD);
+                end = BAD;
             } else if (count > 0) {
                 keep(cell, FUNCTION, -1 - letter);
             } else {
                 if (constants[letter] == NONE) {
-                    constants[letter] = enter(letter);
+                    constants[letter] = enter(letter, -1 - letter);
                 }
                 if (end == GOING_ON) {
                     keepAs(cell, constants[letter]);
@@ -494,7 +475,7 @@ public final class LazyGraphs {
 
         private void lookAtApplication(int cell) {
             int function = applied[cell];
-            if (!isKept(function)) {
+            if (!request(function)) {
                 return;
             }
             if (nextPart(used[cell]) == NONE) {
@@ -502,7 +483,7 @@ public final class LazyGraphs {
             } else if (state[function] == FUNCTION) {
                 takeArguments(cell, value[function]);
             } else {
-                stop(BAD);
+                end = BAD;
             }
         }
 
@@ -522,7 +503,7 @@ public final class LazyGraphs {
             if (missing > 0) {
                 keep(cell, FUNCTION, latest);
             } else {
-                applied[cell] = enterWith(letter, latest);
+                applied[cell] = enter(letter, latest);
             }
         }
 
@@ -542,25 +523,13 @@ public final class LazyGraphs {
             return -1 - first;
         }
 
-        /** Makes an entry of the letter, with the promises of a function that has enough; answers its body's cell. */
-        private int enterWith(int letter, int function) {
-            int body = enter(letter);
-            if (body == NONE) {
-                return NONE;
-            }
-            // The body stands behind the parameters and the point.
-            int latest = function;
-            for (int parameter = body - 2; latest >= 0 && parameter >= 0; parameter--) {
-                value[parameter] = latest;
-                latest = taker[latest];
-            }
-            return body;
-        }
-
-        /** Makes an entry of the letter; answers its body's cell, or NONE when there may be no more entries. */
-        private int enter(int letter) {
+        /**
+         * Makes an entry of the letter, with the promises of a function that has enough of them; answers the cell of
+         * the body, or NONE when there may be no more entries.
+         */
+        private int enter(int letter, int function) {
             if (entered >= allowed) {
-                stop(OUT);
+                end = OUT;
                 return NONE;
             }
             Definition body = definitions[letter];
@@ -568,14 +537,20 @@ public final class LazyGraphs {
             for (int place = 0; place < body.signs.length; place++) {
                 state[base + place] = UNTOUCHED;
             }
+            int latest = function;
+            for (int parameter = body.parameterCount - 1; parameter >= 0 && latest >= 0; parameter--) {
+                value[base + parameter] = latest;
+                latest = taker[latest];
+            }
             bodies[entered] = body;
             entered++;
+            // The body stands behind the parameters and the point.
             return base + body.parameterCount + 1;
         }
 
         private void lookAtChoice(int cell) {
             int condition = cell + 1;
-            if (isNumber(condition)) {
+            if (requestNumber(condition)) {
                 int second = nextPart(condition);
                 keepAs(cell, value[condition] != 0 ? second : nextPart(second));
             }
@@ -583,7 +558,7 @@ public final class LazyGraphs {
 
         private void lookAtSplit(int cell) {
             int list = cell + 1;
-            if (!isKept(list)) {
+            if (!request(list)) {
                 return;
             }
             int second = nextPart(list);
@@ -596,26 +571,27 @@ public final class LazyGraphs {
                 value[third - 1] = tail(value[list]);
                 keepAs(cell, third);
             } else {
-                stop(BAD);
+                end = BAD;
             }
         }
 
         private void lookAtArithmetic(int cell, int sign) {
             int first = cell + 1;
-            if (isNumber(first)) {
+            if (requestNumber(first)) {
                 int second = nextPart(first);
-                if (isNumber(second)) {
+                if (requestNumber(second)) {
                     keep(cell, NUMBER, calculate(sign, value[first], value[second]));
                 }
             }
         }
 
-        private boolean isNumber(int cell) {
-            if (!isKept(cell)) {
+        /** As request; what has a value that is no number ends the run. */
+        private boolean requestNumber(int cell) {
+            if (!request(cell)) {
                 return false;
             }
             if (state[cell] != NUMBER) {
-                stop(BAD);
+                end = BAD;
                 return false;
             }
             return true;
@@ -704,7 +680,7 @@ public final class LazyGraphs {
                 openCount--;
                 goOn(graph);
             } else {
-                graph.stop(BAD);
+                graph.end = BAD;
             }
         }
 
@@ -733,7 +709,7 @@ public final class LazyGraphs {
         /** Answers whether there was room for the sign; the run ends if not. */
         private boolean put(Graph graph, char sign) {
             if (written >= PAGE_LIMIT) {
-                graph.stop(LONG);
+                graph.end = LONG;
                 return false;
             }
             page[written] = sign;

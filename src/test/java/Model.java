@@ -78,7 +78,7 @@ final class Model {
 
     /** The place of the first character that can't stand where it stands, found by what is still due behind it. */
     static int fault(String text) {
-        // P parameters and point, V variable, M up to so many more arguments, ) itself, and E expression with its depth.
+        // P parameters and the point, V a variable, E an expression so deep, M up to so many more arguments and the ).
         Deque<String> due = new ArrayDeque<>();
         due.push("E1");
         due.push("P4");

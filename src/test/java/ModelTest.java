@@ -24,7 +24,7 @@ final class ModelTest {
     private void compare() {
         try {
             for (int n = 0; n < TEXTS; n++) {
-                compareText(n % 2 == 0 ? mutated(new ProgramMaker(random).definition((char) ('A' + random.nextInt(6)))) : noise());
+                compareText(n % 2 == 0 ? mutated() : noise());
             }
             for (int n = 0; n < PROGRAMS; n++) {
                 compareProgram();
@@ -81,8 +81,10 @@ final class ModelTest {
         most = Math.max(most, model.entered);
     }
 
-    private String mutated(String text) {
-        StringBuilder s = new StringBuilder(text);
+    /** A definition with up to two signs changed. */
+    private String mutated() {
+        char letter = (char) ('A' + random.nextInt(6));
+        StringBuilder s = new StringBuilder(new ProgramMaker(random).definition(letter));
         for (int changes = random.nextInt(3); changes > 0 && s.length() > 0; changes--) {
             int p = random.nextInt(s.length());
             int kind = random.nextInt(3);
