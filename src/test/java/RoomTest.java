@@ -1,8 +1,9 @@
 import com.sun.management.ThreadMXBean;
 import java.lang.management.ManagementFactory;
 
-/** The room that calls take: rows are made with the object, and a run makes nothing. */
+/** The room that an object's 512 calls take: rows are made with the object, and a run makes nothing. */
 final class RoomTest {
+    private static final int CALLS = 512;
     private static final ThreadMXBean THREADS = (ThreadMXBean) ManagementFactory.getThreadMXBean();
 
     private static long bytes() {
@@ -16,34 +17,48 @@ final class RoomTest {
 
     public static void main(String[] args) {
         Tester t = new Tester();
-        LazyGraphs warm = dear(t);
-        warm.run('A', 50);
+        newObject(t);
+        runs(t);
+        defines(t, "");
+        defines(t, ".1");
+        defines(t, "." + Tester.sum(20));
+        t.finish("RoomTest");
+    }
 
+    private static void newObject(Tester t) {
+        t.due("a first object, with which classes are loaded", new LazyGraphs().length(), 0);
         long start = bytes();
         LazyGraphs x = new LazyGraphs();
-        atMost(t, "a new object", bytes() - start, 64 * 1024);
+        long taken = bytes() - start;
+        atMost(t, "a new object", taken, 64 * 1024);
         t.due("length", x.length(), 0);
+    }
 
-        LazyGraphs dear = dear(t);
-        start = bytes();
-        for (int call = 0; call < 450; call++) {
-            dear.run('A', 50);
+    private static void runs(Tester t) {
+        String[] program = {"A.(F*680)", "Fnx.?n(F-n1" + "+1".repeat(12) + "x)+1x"};
+        LazyGraphs x = t.with(program);
+        x.run('A', 50);
+        int calls = CALLS - 1 - program[0].length() - program[1].length();
+        long start = bytes();
+        for (int call = 0; call < calls; call++) {
+            x.run('A', 50);
         }
-        atMost(t, "450 runs", bytes() - start, 64 * 1024);
+        long taken = bytes() - start;
+        atMost(t, calls + " runs", taken, 64 * 1024);
+    }
 
-        String text = "Fnx.?n(F-n1" + "+1".repeat(12) + "x)+1x";
-        start = bytes();
-        for (int call = 0; call < 512; call++) {
-            for (int p = 1; p < text.length(); p++) {
+    /** As many defines of the text as an object's calls allow. */
+    private static void defines(Tester t, String text) {
+        LazyGraphs x = new LazyGraphs();
+        int defines = CALLS / (text.length() + 1);
+        long start = bytes();
+        for (int n = 0; n < defines; n++) {
+            for (int p = 0; p < text.length(); p++) {
                 x.type(text.charAt(p));
             }
             x.define('F');
         }
-        atMost(t, "512 defines", bytes() - start, 1024 * 1024);
-        t.finish("RoomTest");
-    }
-
-    private static LazyGraphs dear(Tester t) {
-        return t.with("A.(F*680)", "Fnx.?n(F-n1" + "+1".repeat(12) + "x)+1x");
+        long taken = bytes() - start;
+        atMost(t, defines + " defines of " + text.length() + " characters", taken, 256 * 1024);
     }
 }

@@ -1,18 +1,42 @@
+import java.util.function.Consumer;
+
 /** Compares answers with what is due, and ends a test with exit code 1 if one was wrong. */
 final class Tester {
     private int wrong = 0;
+    private String sentence = "";
+    private int compared = 0;
+
+    /** Runs the test of these words of the document; with a test that compares nothing they have none. */
+    void sentence(String words, Consumer<Tester> test) {
+        sentence = words;
+        compared = 0;
+        try {
+            test.accept(this);
+        } catch (RuntimeException | StackOverflowError e) {
+            tellWrong("a call threw " + e);
+        }
+        if (compared == 0) {
+            tellWrong("nothing was compared");
+        }
+        sentence = "";
+    }
+
+    private void tellWrong(String what) {
+        wrong++;
+        System.out.println(what + (sentence.isEmpty() ? "" : "    (" + sentence + ")"));
+    }
 
     void due(String call, long got, long want) {
+        compared++;
         if (got != want) {
-            wrong++;
-            System.out.println(call + " answered " + got + ", due is " + want);
+            tellWrong(call + " answered " + got + ", due is " + want);
         }
     }
 
     void due(String call, String got, String want) {
+        compared++;
         if (!got.equals(want)) {
-            wrong++;
-            System.out.println(call + " answered \"" + got + "\", due is \"" + want + "\"");
+            tellWrong(call + " answered \"" + got + "\", due is \"" + want + "\"");
         }
     }
 
@@ -43,6 +67,24 @@ final class Tester {
         }
     }
 
+    /** The text is a sound definition with so many parameters. */
+    void reads(String text, int parameters) {
+        due("define " + text, define(new LazyGraphs(), 'A', text), parameters);
+    }
+
+    void fault(String text, int place) {
+        due("define " + text, define(new LazyGraphs(), 'A', text), -1 - place);
+    }
+
+    void stray(String text, int place) {
+        due("define " + text, define(new LazyGraphs(), 'A', text), -100 - place);
+    }
+
+    /** A sum of so many ones that lies no deeper than it must; it has one character less than twice as many. */
+    static String sum(int ones) {
+        return ones == 1 ? "1" : "+" + sum(ones / 2) + sum(ones - ones / 2);
+    }
+
     /** A new object with definitions, each one written as a letter and then its text. */
     LazyGraphs with(String... definitions) {
         LazyGraphs x = new LazyGraphs();
@@ -67,9 +109,18 @@ final class Tester {
         run(50, page.length(), page, entered, definitions);
     }
 
+    void bad(String page, int entered, String... definitions) {
+        run(50, LazyGraphs.BAD, page, entered, definitions);
+    }
+
+    void loop(String page, int entered, String... definitions) {
+        run(50, LazyGraphs.LOOP, page, entered, definitions);
+    }
+
     String page(LazyGraphs x) {
+        int length = x.length();
         StringBuilder page = new StringBuilder();
-        for (int p = 0; p < x.length(); p++) {
+        for (int p = 0; p < length; p++) {
             page.append(x.charAt(p));
         }
         return page.toString();
