@@ -6,9 +6,9 @@ final class WritingTest {
         t.sentence("a number in decimal digits: the least and the greatest int", WritingTest::leastAndGreatest);
         t.sentence("a function as \\", WritingTest::functions);
         t.sentence("the empty list as []", WritingTest::emptyLists);
-        t.sentence("a pair as [, then the promise that it begins with is needed and its value written likewise, then the"
-            + " promise that it goes on with is needed: when that is a pair, a comma is written and it goes on with this"
-            + " pair's two promises in the same way, when it is the empty list, a ]",
+        t.sentence("a pair as [, then the promise that it begins with is needed and its value written likewise, then"
+            + " the promise that it goes on with is needed: when that is a pair, a comma is written and it goes on with"
+            + " this pair's two promises in the same way, when it is the empty list, a ]",
             WritingTest::pairs);
         t.sentence("[, then what it begins with, then what it goes on with, then a comma", WritingTest::inOrder);
         t.sentence("else the run ends with BAD", WritingTest::badEnds);
